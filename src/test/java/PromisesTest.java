@@ -18,12 +18,15 @@ public final class PromisesTest {
         fillGoesBack();
         fillAndBudget();
         fillOfPartsOfALesson();
+        fullDesk();
         tries();
         period();
         roomOf();
         penalty();
         improve();
         improveKeepsItsRoom();
+        improveJoined();
+        improveForATeacher();
         improveRounds();
         absent();
         substitute();
@@ -148,8 +151,12 @@ public final class PromisesTest {
         desk.block(1, 7, 5, false);
         Check.answers("class blocked", 4, () -> desk.place(0, 0, 5));
         desk.block(0, 7, 5, false);
-        Check.answers("room 0 is blocked", 0, () -> desk.place(0, 0, 5));
-        Check.answers("so it has room 1", 1, () -> desk.roomOf(0, 0));
+        desk.block(2, 1, 5, true);
+        desk.block(2, 3, 5, true);
+        Check.answers("rooms 0, 1 and 3 are blocked", 0, () -> desk.place(0, 0, 5));
+        Check.answers("so it has room 2", 2, () -> desk.roomOf(0, 0));
+        Check.refusesState("room 2 has an item", () -> desk.block(2, 2, 5, true));
+        Check.passes("room 4 has none", () -> desk.block(2, 4, 5, true));
     }
 
     private static void blockOfLongAndJoined() {
@@ -186,7 +193,15 @@ public final class PromisesTest {
         Check.answers("broken", 6, () -> desk.place(0, 0, 3));
         Check.answers("nothing changed", -1, () -> desk.period(0, 0));
         Check.answers("no room taken", -1, () -> desk.roomOf(0, 0));
-        Check.answers("only one entry", 0, desk::undo);
+        Check.answers("a day of another lesson of four times", 0, () -> {
+            plain(desk, 1, 1, 14);
+            plain(desk, 2, 2, 11);
+            desk.place(2, 0, 0);
+            return desk.place(1, 0, 1);
+        });
+        desk.undo();
+        Check.answers("two entries", 1, desk::undo);
+        Check.answers("a broken rule was none", 0, desk::undo);
         Check.answers("place(0, 1, 0)", 0, () -> desk.place(0, 1, 0));
     }
 
@@ -302,6 +317,7 @@ public final class PromisesTest {
         Check.answers("six tell that it is impossible", 0, () -> desk.fill(6));
         plain(desk, 1, 1, 13);
         Check.answers("still impossible, of the first lesson", 0, () -> desk.fill(6));
+        tooDearBesideAPlacedItem();
         TimetableDesk easy = new TimetableDesk(1, 3);
         plain(easy, 0, 0, 11);
         plain(easy, 0, 1, 11);
@@ -309,6 +325,18 @@ public final class PromisesTest {
         Check.refusesState("no entry", easy::undo);
         Check.answers("a budget of just that", 1, () -> easy.fill(3));
         Check.answers("tries", 3, easy::tries);
+    }
+
+    private static void tooDearBesideAPlacedItem() {
+        TimetableDesk desk = new TimetableDesk(1, 3);
+        plain(desk, 0, 0, 11);
+        plain(desk, 0, 0, 12);
+        desk.place(0, 0, 0);
+        Check.answers("the budget ends", 2, () -> desk.fill(3));
+        Check.refusesState("the teacher still has an item", () -> desk.block(1, 0, 0, true));
+        Check.refusesState("the class still has an item", () -> desk.block(0, 0, 0, true));
+        Check.refusesState("the room still has an item", () -> desk.block(2, 0, 0, true));
+        Check.passes("not where the search was", () -> desk.block(1, 0, 1, true));
     }
 
     private static void fillOfPartsOfALesson() {
@@ -330,6 +358,35 @@ public final class PromisesTest {
         Check.answers("fill before a placed item", 1, () -> late.fill(100));
         Check.answers("item 1", 0, () -> late.period(0, 1));
         Check.answers("item 2", 2, () -> late.period(0, 2));
+    }
+
+    /** All 64 items, so that the ends of all rows are reached. */
+    private static void fullDesk() {
+        TimetableDesk desk = new TimetableDesk(5, 6);
+        for (int i = 0; i < 16; i++) {
+            plain(desk, i % 8, 7 - i % 8, 14);
+        }
+        Check.refusesArgument("period(16, 0)", () -> desk.period(16, 0));
+        Check.refusesArgument("roomOf(15, 4)", () -> desk.roomOf(15, 4));
+        Check.answers("fill", 1, () -> desk.fill(20000));
+        for (int i = 0; i < 16; i++) {
+            for (int k = 0; k < 4; k++) {
+                int lesson = i;
+                int number = k;
+                // There are six rooms for a period, so six lessons are in it.
+                Check.answers("period(" + i + ", " + k + ")", 6 * k + i / 6, () -> desk.period(lesson, number));
+                Check.answers("roomOf(" + i + ", " + k + ")", i % 6, () -> desk.roomOf(lesson, number));
+            }
+        }
+        // Lessons 4 and 12, 5 and 13 have a period between them on four days.
+        Check.answers("penalty", 4 * 2 * (2 + 1), desk::penalty);
+        Check.answers("improve", 0, () -> desk.improve(10));
+        Check.answers("drop(15, 3)", 20, () -> desk.drop(15, 3));
+        Check.answers("undo drop", 2, desk::undo);
+        Check.answers("absent", 2, () -> desk.absent(0, 3));
+        Check.answers("undo improve", 1, desk::undo);
+        Check.answers("undo fill", 0, desk::undo);
+        Check.answers("all are out", -1, () -> desk.period(15, 3));
     }
 
     private static void tries() {
@@ -457,6 +514,44 @@ public final class PromisesTest {
         Check.answers("with the lowest room there", 1, () -> desk.roomOf(1, 0));
     }
 
+    private static void improveJoined() {
+        TimetableDesk desk = new TimetableDesk(1, 6);
+        desk.lesson(2, 3, 4, 0, 11, 'j');
+        plain(desk, 3, 5, 11);
+        plain(desk, 6, 4, 11);
+        desk.place(0, 0, 0);
+        desk.place(1, 0, 3);
+        desk.place(2, 0, 3);
+        Check.answers("gaps of the second class and the teacher", 4 + 2, desk::penalty);
+        Check.answers("improve(1)", 0, () -> desk.improve(1));
+        Check.answers("beside both", 2, () -> desk.period(0, 0));
+        TimetableDesk torn = new TimetableDesk(1, 6);
+        torn.lesson(2, 3, 4, 0, 11, 'j');
+        plain(torn, 3, 5, 11);
+        plain(torn, 6, 4, 11);
+        torn.block(0, 2, 2, true);
+        torn.block(0, 3, 2, true);
+        torn.block(1, 5, 4, true);
+        torn.block(1, 4, 4, true);
+        torn.place(0, 0, 0);
+        torn.place(1, 0, 3);
+        // At 1: a gap of class 3, worth 2. Then item 1 has 2 blocked and 0 as good: the first of the best.
+        Check.answers("improve(1)", 0, () -> torn.improve(1));
+        Check.answers("nearer", 1, () -> torn.period(0, 0));
+        Check.answers("then beside", 0, () -> torn.period(1, 0));
+    }
+
+    private static void improveForATeacher() {
+        TimetableDesk desk = new TimetableDesk(1, 6);
+        plain(desk, 1, 4, 11);
+        plain(desk, 2, 4, 11);
+        desk.place(0, 0, 0);
+        desk.place(1, 0, 3);
+        Check.answers("gaps of the teacher", 2, desk::penalty);
+        Check.answers("improve(1)", 0, () -> desk.improve(1));
+        Check.answers("beside the other", 2, () -> desk.period(0, 0));
+    }
+
     private static void improveRounds() {
         TimetableDesk desk = needsTwoRounds();
         Check.answers("before", 5, desk::penalty);
@@ -549,6 +644,15 @@ public final class PromisesTest {
         Check.answers("two items", 2, () -> desk.absent(0, 0));
         Check.answers("nobody", -1, () -> desk.substitute(0));
         Check.answers("the lowest of all", 1, () -> desk.substitute(1));
+        desk.block(2, 0, 0, false);
+        Check.answers("a room is no teacher", -1, () -> {
+            desk.drop(0, 0);
+            desk.room(5, 2);
+            desk.lesson(0, -1, 0, 2, 11, 'r');
+            desk.place(2, 0, 0);
+            desk.absent(0, 0);
+            return desk.substitute(0);
+        });
         desk.block(1, 7, 0, false);
         desk.absent(0, 0);
         Check.answers("the only one", 7, () -> desk.substitute(0));
