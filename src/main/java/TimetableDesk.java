@@ -345,7 +345,7 @@ public final class TimetableDesk {
         }
 
         private boolean isOnDay(int item, int day) {
-            return isPlaced(item) && spots[item] / ROOMS / perDay == day;
+            return spots[item] != NONE && spots[item] / ROOMS / perDay == day;
         }
 
         private void putAt(int item, int spot) {
