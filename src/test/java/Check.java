@@ -4,15 +4,32 @@ import java.util.function.IntSupplier;
 final class Check {
     private static int asked = 0;
     private static int wrong = 0;
+    private static int askedBefore = 0;
+    private static String sentence = "";
 
     private Check() {
+    }
+
+    /** What is asked from here on tests this sentence of the document. */
+    static void sentence(String words) {
+        endSentence();
+        askedBefore = asked;
+        sentence = words;
+    }
+
+    private static void endSentence() {
+        if (!sentence.isEmpty() && asked == askedBefore) {
+            wrong++;
+            System.out.println("nothing is asked for: " + sentence);
+        }
     }
 
     static void due(String call, Object want, Object got) {
         asked++;
         if (!want.equals(got)) {
             wrong++;
-            System.out.println(call + " answered " + got + ", due is " + want);
+            System.out.println(
+                    (sentence.isEmpty() ? "" : "[" + sentence + "] ") + call + " answered " + got + ", due is " + want);
         }
     }
 
@@ -56,6 +73,7 @@ final class Check {
     }
 
     static void end() {
+        endSentence();
         System.out.println(wrong == 0 ? asked + " answers are as due" : wrong + " answers are not as due");
         if (wrong != 0) {
             System.exit(1);

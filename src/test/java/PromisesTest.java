@@ -2,9 +2,6 @@ import java.util.Arrays;
 
 /** The document's promises one by one: ordinary inputs, the edges it names, wrong inputs. */
 public final class PromisesTest {
-    private static final int FAR = Integer.MAX_VALUE;
-    private static final int FAR_BELOW = Integer.MIN_VALUE;
-
     public static void main(String[] args) {
         newObject();
         room();
@@ -38,23 +35,10 @@ public final class PromisesTest {
         Check.end();
     }
 
-    /** A class, a teacher and a shape: the rest does not matter there. */
-    private static int plain(TimetableDesk desk, int who, int teacher, int shape) {
-        return desk.lesson(who, -1, teacher, 0, shape, 'a');
-    }
-
-    private static String text(TimetableDesk desk, int what, int who, int length) {
-        StringBuilder text = new StringBuilder();
-        for (int i = 0; i < length; i++) {
-            text.append((char) desk.page(what, who, i));
-        }
-        return text.toString();
-    }
-
     private static void newObject() {
         int[][] weeks = {
             {1, 1, 1, 1}, {5, 6, 5, 6}, {2, 4, 2, 4}, {0, 3, 5, 3}, {6, 3, 5, 3}, {3, 0, 3, 6}, {3, 7, 3, 6},
-            {-1, -1, 5, 6}, {FAR, FAR_BELOW, 5, 6}};
+            {-1, -1, 5, 6}, {Desks.FAR, Desks.FAR_BELOW, 5, 6}};
         for (int[] w : weeks) {
             String call = "TimetableDesk(" + w[0] + ", " + w[1] + ")";
             TimetableDesk desk = new TimetableDesk(w[0], w[1]);
@@ -76,7 +60,7 @@ public final class PromisesTest {
 
     private static void room() {
         TimetableDesk desk = new TimetableDesk(1, 4);
-        int[][] wrong = {{-1, 0}, {6, 0}, {0, -1}, {0, 3}, {FAR, 0}, {0, FAR_BELOW}};
+        int[][] wrong = {{-1, 0}, {6, 0}, {0, -1}, {0, 3}, {Desks.FAR, 0}, {0, Desks.FAR_BELOW}};
         for (int[] w : wrong) {
             Check.refusesArgument("room(" + w[0] + ", " + w[1] + ")", () -> desk.room(w[0], w[1]));
         }
@@ -103,8 +87,8 @@ public final class PromisesTest {
             {3, 3, 0, 0, 11, 65}, {0, -1, -1, 0, 11, 65}, {0, -1, 8, 0, 11, 65}, {0, -1, 0, -1, 11, 65},
             {0, -1, 0, 3, 11, 65}, {0, -1, 0, 0, 10, 65}, {0, -1, 0, 0, 15, 65}, {0, -1, 0, 0, 20, 65},
             {0, -1, 0, 0, 25, 65}, {0, -1, 0, 0, 31, 65}, {0, -1, 0, 0, 1, 65}, {0, -1, 0, 0, 111, 65},
-            {0, -1, 0, 0, -11, 65}, {0, -1, 0, 0, 11, 32}, {0, -1, 0, 0, 11, 127}, {0, -1, 0, 0, FAR, 65},
-            {FAR, -1, 0, 0, 11, 65}, {0, FAR_BELOW, 0, 0, 11, 65}, {0, -1, 0, 0, FAR_BELOW, 65}};
+            {0, -1, 0, 0, -11, 65}, {0, -1, 0, 0, 11, 32}, {0, -1, 0, 0, 11, 127}, {0, -1, 0, 0, Desks.FAR, 65},
+            {Desks.FAR, -1, 0, 0, 11, 65}, {0, Desks.FAR_BELOW, 0, 0, 11, 65}, {0, -1, 0, 0, Desks.FAR_BELOW, 65}};
         refuseLessons(desk, wrong);
         int[] shapes = {11, 12, 13, 14, 21, 22, 23, 24};
         for (int i = 0; i < 16; i++) {
@@ -131,13 +115,13 @@ public final class PromisesTest {
         TimetableDesk desk = new TimetableDesk(2, 3);
         int[][] wrong = {
             {-1, 0, 0}, {3, 0, 0}, {0, -1, 0}, {0, 8, 0}, {1, -1, 0}, {1, 8, 0}, {2, -1, 0}, {2, 6, 0},
-            {0, 0, -1}, {0, 0, 6}, {FAR, 0, 0}, {0, FAR, 0}, {0, 0, FAR_BELOW}};
+            {0, 0, -1}, {0, 0, 6}, {Desks.FAR, 0, 0}, {0, Desks.FAR, 0}, {0, 0, Desks.FAR_BELOW}};
         for (int[] w : wrong) {
             String call = "block" + Arrays.toString(w);
             Check.refusesArgument(call + " on", () -> desk.block(w[0], w[1], w[2], true));
             Check.refusesArgument(call + " off", () -> desk.block(w[0], w[1], w[2], false));
         }
-        plain(desk, 7, 7, 11);
+        Desks.plain(desk, 7, 7, 11);
         for (int what = 0; what < 3; what++) {
             int kind = what;
             int who = what == 2 ? 0 : 7;
@@ -179,10 +163,10 @@ public final class PromisesTest {
 
     private static void place() {
         TimetableDesk desk = new TimetableDesk(2, 3);
-        plain(desk, 0, 0, 12);
+        Desks.plain(desk, 0, 0, 12);
         int[][] wrong = {
-            {-1, 0, 0}, {1, 0, 0}, {0, -1, 0}, {0, 2, 0}, {0, 0, -1}, {0, 0, 6}, {FAR, FAR, FAR},
-            {FAR_BELOW, 0, 0}, {0, FAR_BELOW, 0}, {0, 0, FAR_BELOW}};
+            {-1, 0, 0}, {1, 0, 0}, {0, -1, 0}, {0, 2, 0}, {0, 0, -1}, {0, 0, 6}, {Desks.FAR, Desks.FAR, Desks.FAR},
+            {Desks.FAR_BELOW, 0, 0}, {0, Desks.FAR_BELOW, 0}, {0, 0, Desks.FAR_BELOW}};
         for (int[] w : wrong) {
             Check.refusesArgument("place" + Arrays.toString(w), () -> desk.place(w[0], w[1], w[2]));
         }
@@ -194,8 +178,8 @@ public final class PromisesTest {
         Check.answers("nothing changed", -1, () -> desk.period(0, 0));
         Check.answers("no room taken", -1, () -> desk.roomOf(0, 0));
         Check.answers("a day of another lesson of four times", 0, () -> {
-            plain(desk, 1, 1, 14);
-            plain(desk, 2, 2, 11);
+            Desks.plain(desk, 1, 1, 14);
+            Desks.plain(desk, 2, 2, 11);
             desk.place(2, 0, 0);
             return desk.place(1, 0, 1);
         });
@@ -246,8 +230,8 @@ public final class PromisesTest {
 
     private static void drop() {
         TimetableDesk desk = new TimetableDesk(2, 3);
-        plain(desk, 0, 0, 22);
-        int[][] wrong = {{-1, 0}, {1, 0}, {0, -1}, {0, 2}, {FAR, 0}, {0, FAR_BELOW}};
+        Desks.plain(desk, 0, 0, 22);
+        int[][] wrong = {{-1, 0}, {1, 0}, {0, -1}, {0, 2}, {Desks.FAR, 0}, {0, Desks.FAR_BELOW}};
         for (int[] w : wrong) {
             Check.refusesArgument("drop" + Arrays.toString(w), () -> desk.drop(w[0], w[1]));
         }
@@ -268,33 +252,33 @@ public final class PromisesTest {
 
     private static void fill() {
         TimetableDesk desk = new TimetableDesk(2, 3);
-        for (int budget : new int[] {0, -1, 20001, FAR, FAR_BELOW}) {
+        for (int budget : new int[] {0, -1, 20001, Desks.FAR, Desks.FAR_BELOW}) {
             Check.refusesArgument("fill(" + budget + ")", () -> desk.fill(budget));
         }
         Check.answers("fill with no lessons", 1, () -> desk.fill(1));
         Check.refusesState("which is no entry", desk::undo);
-        plain(desk, 0, 0, 12);
-        plain(desk, 0, 1, 21);
-        plain(desk, 1, 0, 11);
+        Desks.plain(desk, 0, 0, 12);
+        Desks.plain(desk, 0, 1, 21);
+        Desks.plain(desk, 1, 0, 11);
         Check.answers("fill(20000)", 1, () -> desk.fill(20000));
-        Check.due("first class", "aaa\na..\n", text(desk, 0, 0, 8));
-        Check.due("second class", ".a.\n...\n", text(desk, 0, 1, 8));
+        Check.due("first class", "aaa\na..\n", Desks.text(desk, 0, 0, 8));
+        Check.due("second class", ".a.\n...\n", Desks.text(desk, 0, 1, 8));
         Check.answers("lowest room", 1, () -> desk.roomOf(2, 0));
         Check.answers("fill again", 1, () -> desk.fill(1));
         Check.answers("one entry in all", 0, desk::undo);
-        Check.due("all taken back", "...\n...\n", text(desk, 0, 0, 8));
+        Check.due("all taken back", "...\n...\n", Desks.text(desk, 0, 0, 8));
     }
 
     private static void fillGoesBack() {
         TimetableDesk desk = new TimetableDesk(1, 3);
-        plain(desk, 0, 0, 11);
-        plain(desk, 0, 1, 21);
+        Desks.plain(desk, 0, 0, 11);
+        Desks.plain(desk, 0, 1, 21);
         desk.block(1, 1, 2, true);
         // 0 at 0; 1 at 0, 1, 2 fails; 0 at 1; 1 at 0, 1, 2 fails; 0 at 2; 1 at 0.
         Check.answers("one try too few", 2, () -> desk.fill(9));
         Check.answers("fill goes back", 1, () -> desk.fill(10));
         Check.answers("tries", 10, desk::tries);
-        Check.due("class", "aaa\n", text(desk, 0, 0, 4));
+        Check.due("class", "aaa\n", Desks.text(desk, 0, 0, 4));
         Check.answers("the first one moved on", 2, () -> desk.period(0, 0));
         desk.undo();
         desk.block(1, 1, 1, true);
@@ -306,7 +290,7 @@ public final class PromisesTest {
 
     private static void fillAndBudget() {
         TimetableDesk desk = new TimetableDesk(1, 3);
-        plain(desk, 0, 0, 12);
+        Desks.plain(desk, 0, 0, 12);
         // Impossible after 6 tries: 0 at 0, 1 at 1, 2; 0 at 1, 1 at 2; 0 at 2, and none for 1.
         Check.answers("five are too few", 2, () -> desk.fill(5));
         Check.answers("tries", 5, desk::tries);
@@ -315,12 +299,12 @@ public final class PromisesTest {
         Check.passes("the teacher too", () -> desk.block(1, 0, 1, true));
         desk.block(1, 0, 1, false);
         Check.answers("six tell that it is impossible", 0, () -> desk.fill(6));
-        plain(desk, 1, 1, 13);
+        Desks.plain(desk, 1, 1, 13);
         Check.answers("still impossible, of the first lesson", 0, () -> desk.fill(6));
         tooDearBesideAPlacedItem();
         TimetableDesk easy = new TimetableDesk(1, 3);
-        plain(easy, 0, 0, 11);
-        plain(easy, 0, 1, 11);
+        Desks.plain(easy, 0, 0, 11);
+        Desks.plain(easy, 0, 1, 11);
         Check.answers("a budget of one less", 2, () -> easy.fill(2));
         Check.refusesState("no entry", easy::undo);
         Check.answers("a budget of just that", 1, () -> easy.fill(3));
@@ -329,8 +313,8 @@ public final class PromisesTest {
 
     private static void tooDearBesideAPlacedItem() {
         TimetableDesk desk = new TimetableDesk(1, 3);
-        plain(desk, 0, 0, 11);
-        plain(desk, 0, 0, 12);
+        Desks.plain(desk, 0, 0, 11);
+        Desks.plain(desk, 0, 0, 12);
         desk.place(0, 0, 0);
         Check.answers("the budget ends", 2, () -> desk.fill(3));
         Check.refusesState("the teacher still has an item", () -> desk.block(1, 0, 0, true));
@@ -341,7 +325,7 @@ public final class PromisesTest {
 
     private static void fillOfPartsOfALesson() {
         TimetableDesk desk = new TimetableDesk(4, 2);
-        plain(desk, 0, 0, 13);
+        Desks.plain(desk, 0, 0, 13);
         desk.place(0, 1, 4);
         // Item 0 at 0; item 2 begins behind it: 1 is the same day, 2 is free.
         Check.answers("fill round a placed item", 1, () -> desk.fill(100));
@@ -353,7 +337,7 @@ public final class PromisesTest {
         Check.answers("fill one", 1, () -> desk.fill(100));
         Check.answers("tries", 5, desk::tries);
         TimetableDesk late = new TimetableDesk(4, 2);
-        plain(late, 0, 0, 13);
+        Desks.plain(late, 0, 0, 13);
         late.place(0, 0, 6);
         Check.answers("fill before a placed item", 1, () -> late.fill(100));
         Check.answers("item 1", 0, () -> late.period(0, 1));
@@ -364,7 +348,7 @@ public final class PromisesTest {
     private static void fullDesk() {
         TimetableDesk desk = new TimetableDesk(5, 6);
         for (int i = 0; i < 16; i++) {
-            plain(desk, i % 8, 7 - i % 8, 14);
+            Desks.plain(desk, i % 8, 7 - i % 8, 14);
         }
         Check.refusesArgument("period(16, 0)", () -> desk.period(16, 0));
         Check.refusesArgument("roomOf(15, 4)", () -> desk.roomOf(15, 4));
@@ -392,7 +376,7 @@ public final class PromisesTest {
     private static void tries() {
         TimetableDesk desk = new TimetableDesk(1, 6);
         Check.answers("tries at first", 0, desk::tries);
-        plain(desk, 0, 0, 11);
+        Desks.plain(desk, 0, 0, 11);
         desk.block(1, 0, 0, true);
         desk.fill(10);
         Check.answers("tries", 2, desk::tries);
@@ -408,8 +392,8 @@ public final class PromisesTest {
     private static void period() {
         TimetableDesk desk = new TimetableDesk(5, 6);
         Check.refusesArgument("period without lessons", () -> desk.period(0, 0));
-        plain(desk, 0, 0, 22);
-        int[][] wrong = {{-1, 0}, {1, 0}, {0, -1}, {0, 2}, {FAR, 0}, {0, FAR_BELOW}};
+        Desks.plain(desk, 0, 0, 22);
+        int[][] wrong = {{-1, 0}, {1, 0}, {0, -1}, {0, 2}, {Desks.FAR, 0}, {0, Desks.FAR_BELOW}};
         for (int[] w : wrong) {
             Check.refusesArgument("period" + Arrays.toString(w), () -> desk.period(w[0], w[1]));
         }
@@ -423,9 +407,9 @@ public final class PromisesTest {
         TimetableDesk desk = new TimetableDesk(5, 6);
         Check.refusesArgument("roomOf without lessons", () -> desk.roomOf(0, 0));
         for (int i = 0; i < 7; i++) {
-            plain(desk, i, i, 12);
+            Desks.plain(desk, i, i, 12);
         }
-        int[][] wrong = {{-1, 0}, {7, 0}, {0, -1}, {0, 2}, {FAR, 0}, {0, FAR_BELOW}};
+        int[][] wrong = {{-1, 0}, {7, 0}, {0, -1}, {0, 2}, {Desks.FAR, 0}, {0, Desks.FAR_BELOW}};
         for (int[] w : wrong) {
             Check.refusesArgument("roomOf" + Arrays.toString(w), () -> desk.roomOf(w[0], w[1]));
         }
@@ -443,9 +427,9 @@ public final class PromisesTest {
 
     private static void penalty() {
         TimetableDesk desk = new TimetableDesk(2, 6);
-        plain(desk, 0, 0, 12);
-        plain(desk, 0, 1, 11);
-        plain(desk, 1, 0, 11);
+        Desks.plain(desk, 0, 0, 12);
+        Desks.plain(desk, 0, 1, 11);
+        Desks.plain(desk, 1, 0, 11);
         desk.lesson(0, 1, 2, 0, 21, 'j');
         desk.place(0, 0, 0);
         Check.answers("one item", 0, desk::penalty);
@@ -459,13 +443,13 @@ public final class PromisesTest {
         // Class 0 has 6 and 10, 11: three gaps; class 1 has 10, 11: none; one last period.
         Check.answers("a long joined item at the end", 7 + 6 + 3, desk::penalty);
         TimetableDesk short1 = new TimetableDesk(2, 1);
-        plain(short1, 0, 0, 12);
+        Desks.plain(short1, 0, 0, 12);
         short1.place(0, 0, 0);
         short1.place(0, 1, 1);
         Check.answers("all periods are last ones", 6, short1::penalty);
         TimetableDesk many = new TimetableDesk(1, 6);
         for (int i = 0; i < 3; i++) {
-            plain(many, 3, 4, 11);
+            Desks.plain(many, 3, 4, 11);
             many.place(i, 0, 5 - 2 * i);
         }
         // 5, 3 and 1 of one class and teacher: two gaps each, one last period.
@@ -474,12 +458,12 @@ public final class PromisesTest {
 
     private static void improve() {
         TimetableDesk desk = new TimetableDesk(1, 6);
-        for (int rounds : new int[] {0, -1, 11, FAR, FAR_BELOW}) {
+        for (int rounds : new int[] {0, -1, 11, Desks.FAR, Desks.FAR_BELOW}) {
             Check.refusesArgument("improve(" + rounds + ")", () -> desk.improve(rounds));
         }
         Check.answers("improve nothing", 0, () -> desk.improve(10));
-        plain(desk, 0, 0, 11);
-        plain(desk, 0, 1, 11);
+        Desks.plain(desk, 0, 0, 11);
+        Desks.plain(desk, 0, 1, 11);
         desk.place(0, 0, 5);
         desk.place(1, 0, 3);
         Check.answers("penalty before", 5, desk::penalty);
@@ -496,8 +480,8 @@ public final class PromisesTest {
 
     private static void improveKeepsItsRoom() {
         TimetableDesk desk = new TimetableDesk(1, 3);
-        plain(desk, 0, 0, 11);
-        plain(desk, 1, 1, 11);
+        Desks.plain(desk, 0, 0, 11);
+        Desks.plain(desk, 1, 1, 11);
         desk.place(0, 0, 0);
         desk.place(1, 0, 0);
         desk.drop(0, 0);
@@ -517,8 +501,8 @@ public final class PromisesTest {
     private static void improveJoined() {
         TimetableDesk desk = new TimetableDesk(1, 6);
         desk.lesson(2, 3, 4, 0, 11, 'j');
-        plain(desk, 3, 5, 11);
-        plain(desk, 6, 4, 11);
+        Desks.plain(desk, 3, 5, 11);
+        Desks.plain(desk, 6, 4, 11);
         desk.place(0, 0, 0);
         desk.place(1, 0, 3);
         desk.place(2, 0, 3);
@@ -527,8 +511,8 @@ public final class PromisesTest {
         Check.answers("beside both", 2, () -> desk.period(0, 0));
         TimetableDesk torn = new TimetableDesk(1, 6);
         torn.lesson(2, 3, 4, 0, 11, 'j');
-        plain(torn, 3, 5, 11);
-        plain(torn, 6, 4, 11);
+        Desks.plain(torn, 3, 5, 11);
+        Desks.plain(torn, 6, 4, 11);
         torn.block(0, 2, 2, true);
         torn.block(0, 3, 2, true);
         torn.block(1, 5, 4, true);
@@ -543,8 +527,8 @@ public final class PromisesTest {
 
     private static void improveForATeacher() {
         TimetableDesk desk = new TimetableDesk(1, 6);
-        plain(desk, 1, 4, 11);
-        plain(desk, 2, 4, 11);
+        Desks.plain(desk, 1, 4, 11);
+        Desks.plain(desk, 2, 4, 11);
         desk.place(0, 0, 0);
         desk.place(1, 0, 3);
         Check.answers("gaps of the teacher", 2, desk::penalty);
@@ -567,9 +551,9 @@ public final class PromisesTest {
     /** The first item can go to 2 alone, where the second one is, which goes to 1 behind it. */
     private static TimetableDesk needsTwoRounds() {
         TimetableDesk desk = new TimetableDesk(1, 4);
-        plain(desk, 0, 0, 11);
-        plain(desk, 1, 0, 11);
-        plain(desk, 1, 1, 11);
+        Desks.plain(desk, 0, 0, 11);
+        Desks.plain(desk, 1, 0, 11);
+        Desks.plain(desk, 1, 1, 11);
         desk.block(0, 0, 0, true);
         desk.block(0, 0, 1, true);
         desk.place(0, 0, 3);
@@ -580,13 +564,13 @@ public final class PromisesTest {
 
     private static void absent() {
         TimetableDesk desk = new TimetableDesk(2, 6);
-        int[][] wrong = {{-1, 0}, {8, 0}, {0, -1}, {0, 2}, {FAR, 0}, {0, FAR_BELOW}};
+        int[][] wrong = {{-1, 0}, {8, 0}, {0, -1}, {0, 2}, {Desks.FAR, 0}, {0, Desks.FAR_BELOW}};
         for (int[] w : wrong) {
             Check.refusesArgument("absent" + Arrays.toString(w), () -> desk.absent(w[0], w[1]));
         }
-        plain(desk, 0, 3, 22);
-        plain(desk, 1, 3, 11);
-        plain(desk, 1, 3, 11);
+        Desks.plain(desk, 0, 3, 22);
+        Desks.plain(desk, 1, 3, 11);
+        Desks.plain(desk, 1, 3, 11);
         desk.place(0, 0, 4);
         desk.place(0, 1, 6);
         desk.place(1, 0, 0);
@@ -598,9 +582,9 @@ public final class PromisesTest {
 
     private static void substitute() {
         TimetableDesk desk = new TimetableDesk(2, 6);
-        plain(desk, 0, 3, 21);
-        plain(desk, 0, 3, 11);
-        plain(desk, 0, 3, 11);
+        Desks.plain(desk, 0, 3, 21);
+        Desks.plain(desk, 0, 3, 11);
+        Desks.plain(desk, 0, 3, 11);
         desk.place(0, 0, 4);
         desk.place(1, 0, 2);
         desk.place(2, 0, 0);
@@ -622,8 +606,8 @@ public final class PromisesTest {
         Check.answers("free in both periods", 5, () -> desk.substitute(2));
         Check.refusesIndex("substitute(3)", () -> desk.substitute(3));
         Check.refusesIndex("substitute(-1)", () -> desk.substitute(-1));
-        Check.refusesIndex("substitute far", () -> desk.substitute(FAR));
-        Check.refusesIndex("substitute far below", () -> desk.substitute(FAR_BELOW));
+        Check.refusesIndex("substitute far", () -> desk.substitute(Desks.FAR));
+        Check.refusesIndex("substitute far below", () -> desk.substitute(Desks.FAR_BELOW));
         desk.drop(0, 0);
         Check.answers("found by the latest call", 5, () -> desk.substitute(2));
         Check.refusesArgument("absent(8, 0)", () -> desk.absent(8, 0));
@@ -634,8 +618,8 @@ public final class PromisesTest {
 
     private static void substituteOfNobody() {
         TimetableDesk desk = new TimetableDesk(1, 2);
-        plain(desk, 0, 0, 11);
-        plain(desk, 0, 0, 11);
+        Desks.plain(desk, 0, 0, 11);
+        Desks.plain(desk, 0, 0, 11);
         desk.place(0, 0, 0);
         desk.place(1, 0, 1);
         for (int who = 1; who < 8; who++) {
@@ -661,7 +645,7 @@ public final class PromisesTest {
     private static void undo() {
         TimetableDesk desk = new TimetableDesk(2, 3);
         Check.refusesState("undo at first", desk::undo);
-        plain(desk, 0, 0, 12);
+        Desks.plain(desk, 0, 0, 12);
         desk.block(0, 1, 0, true);
         desk.room(5, 1);
         Check.refusesState("lessons, blocks and rooms are no entries", desk::undo);
@@ -684,7 +668,7 @@ public final class PromisesTest {
         Check.answers("undo drop", 1, desk::undo);
         Check.answers("back", 2, () -> desk.period(0, 0));
         Check.answers("back with its room", 0, () -> desk.roomOf(0, 0));
-        Check.answers("a lesson that came later", 1, () -> plain(desk, 0, 0, 11));
+        Check.answers("a lesson that came later", 1, () -> Desks.plain(desk, 0, 0, 11));
         Check.answers("undo place", 0, desk::undo);
         Check.refusesState("undo at the end", desk::undo);
         Check.answers("the lesson is still there", 0, () -> desk.place(1, 0, 2));
@@ -692,7 +676,7 @@ public final class PromisesTest {
 
     private static void undoKeepsTwenty() {
         TimetableDesk desk = new TimetableDesk(2, 3);
-        plain(desk, 0, 0, 11);
+        Desks.plain(desk, 0, 0, 11);
         for (int i = 0; i < 12; i++) {
             desk.place(0, 0, i % 6);
             desk.drop(0, 0);
@@ -714,7 +698,7 @@ public final class PromisesTest {
 
     private static void undoThroughLaterBlocks() {
         TimetableDesk desk = new TimetableDesk(1, 3);
-        plain(desk, 0, 0, 11);
+        Desks.plain(desk, 0, 0, 11);
         desk.place(0, 0, 0);
         desk.drop(0, 0);
         desk.block(0, 0, 0, true);
@@ -736,30 +720,31 @@ public final class PromisesTest {
         TimetableDesk desk = new TimetableDesk(2, 3);
         desk.lesson(0, 7, 6, 0, 22, '~');
         desk.lesson(1, -1, 7, 0, 11, '!');
-        int[][] wrong = {{-1, 0}, {3, 0}, {0, -1}, {0, 8}, {1, -1}, {1, 8}, {2, -1}, {2, 6}, {FAR, 0}, {0, FAR}};
+        int[][] wrong = {
+            {-1, 0}, {3, 0}, {0, -1}, {0, 8}, {1, -1}, {1, 8}, {2, -1}, {2, 6}, {Desks.FAR, 0}, {0, Desks.FAR}};
         for (int[] w : wrong) {
             String call = "page" + Arrays.toString(w);
             Check.refusesArgument(call, () -> desk.page(w[0], w[1], 0));
             Check.refusesArgument(call + " and no such character", () -> desk.page(w[0], w[1], -1));
         }
-        for (int i : new int[] {-1, 8, FAR, FAR_BELOW}) {
+        for (int i : new int[] {-1, 8, Desks.FAR, Desks.FAR_BELOW}) {
             Check.refusesIndex("page(0, 0, " + i + ")", () -> desk.page(0, 0, i));
         }
-        Check.due("empty", "...\n...\n", text(desk, 2, 5, 8));
+        Check.due("empty", "...\n...\n", Desks.text(desk, 2, 5, 8));
         desk.place(0, 0, 1);
         desk.place(0, 1, 3);
         desk.place(1, 0, 4);
-        Check.due("class", ".~~\n~~.\n", text(desk, 0, 0, 8));
-        Check.due("second class", ".~~\n~~.\n", text(desk, 0, 7, 8));
-        Check.due("another class", "...\n.!.\n", text(desk, 0, 1, 8));
-        Check.due("teacher", ".~~\n~~.\n", text(desk, 1, 6, 8));
-        Check.due("another teacher", "...\n.!.\n", text(desk, 1, 7, 8));
-        Check.due("no teacher of these", "...\n...\n", text(desk, 1, 0, 8));
-        Check.due("room", ".~~\n~~.\n", text(desk, 2, 0, 8));
-        Check.due("another room", "...\n.!.\n", text(desk, 2, 1, 8));
+        Check.due("class", ".~~\n~~.\n", Desks.text(desk, 0, 0, 8));
+        Check.due("second class", ".~~\n~~.\n", Desks.text(desk, 0, 7, 8));
+        Check.due("another class", "...\n.!.\n", Desks.text(desk, 0, 1, 8));
+        Check.due("teacher", ".~~\n~~.\n", Desks.text(desk, 1, 6, 8));
+        Check.due("another teacher", "...\n.!.\n", Desks.text(desk, 1, 7, 8));
+        Check.due("no teacher of these", "...\n...\n", Desks.text(desk, 1, 0, 8));
+        Check.due("room", ".~~\n~~.\n", Desks.text(desk, 2, 0, 8));
+        Check.due("another room", "...\n.!.\n", Desks.text(desk, 2, 1, 8));
         desk.block(0, 0, 0, true);
-        Check.due("blocks are not on it", ".~~\n~~.\n", text(desk, 0, 0, 8));
+        Check.due("blocks are not on it", ".~~\n~~.\n", Desks.text(desk, 0, 0, 8));
         desk.drop(0, 0);
-        Check.due("dropped", "...\n~~.\n", text(desk, 0, 0, 8));
+        Check.due("dropped", "...\n~~.\n", Desks.text(desk, 0, 0, 8));
     }
 }
